@@ -546,7 +546,10 @@ public final class LoanRules {
             return false;
         }
 
-        /** Only whole words count: a longer one that begins alike can't be there. */
+        /**
+         * Only whole words count: one with a letter more can't be there. Any other sign behind a word is
+         * no part of it, and is left to be told at its own place if it does not fit.
+         */
         private boolean takesWord(String word) {
             if (wrongPlace != NONE) {
                 return false;
@@ -556,8 +559,7 @@ public final class LoanRules {
                     return false;
                 }
             }
-            int behind = signAt(place + word.length());
-            if (behind != ' ' && behind != END) {
+            if (isLetter(signAt(place + word.length()))) {
                 return false;
             }
             place += word.length();
@@ -599,6 +601,10 @@ public final class LoanRules {
 
         private int signAt(int at) {
             return at >= 0 && at < length && at < signs.length ? signs[at] : END;
+        }
+
+        private static boolean isLetter(int sign) {
+            return (sign >= 'a' && sign <= 'z') || (sign >= 'A' && sign <= 'Z');
         }
 
         private static boolean isDigit(int sign) {

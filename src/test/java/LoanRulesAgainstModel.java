@@ -81,13 +81,13 @@ public final class LoanRulesAgainstModel {
             return rules.size() - 1;
         }
 
-        /** Word by word over a split text; -1 if all is right. */
+        /** Part by part of the text, split at its spaces; -1 if all is right. */
         static int wrongPlace(String t, ModelRule r) {
             String[] words = t.split(" ", -1);
             int place = 0;
             int stage = -1;
             for (int w = 0; w < words.length; w++) {
-                String word = words[w];
+                String word = letters(words[w]);
                 boolean deed = word.equals("lend") || word.equals("refuse") || word.equals("fail");
                 int mine = STAGES.indexOf(deed ? "DEED" : word);
                 boolean early = mine < 4;
@@ -98,6 +98,9 @@ public final class LoanRulesAgainstModel {
                 }
                 stage = mine;
                 place += word.length();
+                if (words[w].length() > word.length()) {
+                    return place;
+                }
                 if (deed) {
                     r.deed = word;
                 }
@@ -118,10 +121,15 @@ public final class LoanRulesAgainstModel {
             return r.deed == null ? t.length() : -1;
         }
 
+        /** The letters at its head: only they are the word. */
+        static String letters(String part) {
+            return part.replaceFirst("(?s)[^A-Za-z].*", "");
+        }
+
         static int wrongNumber(String name, String word, ModelRule r) {
-            if (name.equals("lend") && word.equals("term")) {
+            if (name.equals("lend") && letters(word).equals("term")) {
                 r.deed = "lend term";
-                return -1;
+                return word.length() > 4 ? 4 : -1;
             }
             String digits = word.replaceFirst("(?s)[^0-9].*", "");
             int most = name.equals("kind") || name.equals("type") ? 1 : name.equals("person") ? 2 : 3;

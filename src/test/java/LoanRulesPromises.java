@@ -133,7 +133,9 @@ public final class LoanRulesPromises {
         wrongAt(0, "lenx 5");
         wrongAt(0, "len");
         wrongAt(0, "lendx 5");
-        wrongAt(0, "kind1 lend 5");
+        wrongAt(4, "kind1 lend 5");
+        wrongAt(4, "lend5");
+        wrongAt(0, "len5");
         wrongAt(4, "lend");
         wrongAt(5, "lend ");
         wrongAt(5, "lend  5");
@@ -153,7 +155,7 @@ public final class LoanRulesPromises {
         wrongAt(7, "lend 5 7");
         wrongAt(7, "lend 5 kind 1");
         wrongAt(10, "lend term 5");
-        wrongAt(0, "fail\u0000");
+        wrongAt(4, "fail\u0000");
         wrongAt(6, "lend 5\u0000");
         wrongAt(6, "lend 5\u00ff");
         wrongAt(6, "lend 5rank 1");
@@ -194,6 +196,46 @@ public final class LoanRulesPromises {
         wrongAt(14, "lend 5 rank 1 gap 2");
         wrongAt(14, "lend 5 rank 1 rank 2");
         wrongAt(14, "lend 5 rank 1 ");
+    }
+
+    /** Rules up to and with each of the words that a rule may have. */
+    private static final String[] TO_EACH_WORD = {
+        "kind", "type", "kind 1 type", "person", "type 2 person", "kind 1 type 2 person",
+        "lend", "kind 1 lend", "person 3 lend", "lend term", "type 9 lend term",
+        "refuse", "kind 1 refuse", "fail", "person 49 fail",
+        "lend 5 renew", "lend term renew", "lend 5 gap", "lend term gap", "lend 5 renew 1 gap",
+        "lend 5 recall", "lend term recall", "lend 5 renew 1 gap 2 recall",
+        "lend 5 rank", "lend term rank", "lend 5 renew 1 gap 2 recall 3 rank", "refuse rank", "fail rank"};
+
+    private static boolean isLetter(char sign) {
+        return (sign >= 'a' && sign <= 'z') || (sign >= 'A' && sign <= 'Z');
+    }
+
+    /** Behind a word a letter makes another word of it; any other sign but a space is itself the wrong one. */
+    private static void promise3BehindWords() {
+        for (String text : TO_EACH_WORD) {
+            int firstSign = text.lastIndexOf(' ') + 1;
+            for (char sign = 0; sign < 256; sign++) {
+                if (sign != ' ') {
+                    wrongAt(isLetter(sign) ? firstSign : text.length(), text + sign);
+                    wrongAt(isLetter(sign) ? firstSign : text.length(), text + sign + " 5");
+                    wrongAt(isLetter(sign) ? firstSign : text.length(), text + sign + "x");
+                }
+            }
+        }
+    }
+
+    /** A word that is not whole can't be there, whatever sign ends it. */
+    private static void promise3CutWords() {
+        for (String text : TO_EACH_WORD) {
+            int firstSign = text.lastIndexOf(' ') + 1;
+            for (int end = firstSign + 1; end < text.length(); end++) {
+                String cut = text.substring(0, end);
+                for (String behind : new String[] {"", " ", " 5", "\u0000", "5", ".", "x", "\u00ff"}) {
+                    wrongAt(firstSign, cut + behind);
+                }
+            }
+        }
     }
 
     private static void promise3Full() {
@@ -729,6 +771,8 @@ public final class LoanRulesPromises {
         promise3Right();
         promise3Wrong();
         promise3WrongParts();
+        promise3BehindWords();
+        promise3CutWords();
         promise3Full();
         promise4Closed();
         promise5Term();
