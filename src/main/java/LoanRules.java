@@ -551,9 +551,6 @@ public final class LoanRules {
          * no part of it, and is left to be told at its own place if it does not fit.
          */
         private boolean takesWord(String word) {
-            if (wrongPlace != NONE) {
-                return false;
-            }
             for (int i = 0; i < word.length(); i++) {
                 if (signAt(place + i) != word.charAt(i)) {
                     return false;

@@ -1,64 +1,13 @@
 /** Each promise of the document by hand: ordinary inputs, the edges it names, wrong inputs. */
-public final class LoanRulesPromises {
-    private static final int[] WILD = {Integer.MIN_VALUE, -10000, -1, 10000, 1 << 20, Integer.MAX_VALUE};
-    private static final int THROWN = Integer.MIN_VALUE;
-
-    private static int wrong = 0;
-
-    private static void due(String call, int got, int want) {
-        if (got != want) {
-            wrong++;
-            System.out.println(call + " answered " + got + ", due is " + want);
-        }
-    }
-
-    private static void due(String call, boolean got, boolean want) {
-        due(call, got ? 1 : 0, want ? 1 : 0);
-    }
-
-    private static void collect(LoanRules x, String text) {
-        for (int i = 0; i < text.length(); i++) {
-            x.sign(text.charAt(i));
-        }
-    }
-
-    private static int tell(LoanRules x, String text) {
-        collect(x, text);
-        return x.rule();
-    }
-
-    /** An object with these rules. */
-    private static LoanRules with(String... texts) {
-        LoanRules x = new LoanRules();
-        for (int i = 0; i < texts.length; i++) {
-            due("rule of " + texts[i], tell(x, texts[i]), i);
-        }
-        return x;
-    }
-
-    private static int lend(LoanRules x, int person, int item, int day) {
-        try {
-            return x.lend(person, item, day);
-        } catch (IllegalStateException e) {
-            return THROWN;
-        }
-    }
-
-    private static void wrongAt(int place, String text) {
-        LoanRules x = new LoanRules();
-        due("the rule '" + text + "'", tell(x, text), -1 - place);
-        due("no rule after '" + text + "'", x.never(0), LoanRules.NONE);
-        due("a rule after '" + text + "'", tell(x, "fail"), 0);
-    }
-
+public final class LoanRulesPromises extends Checks {
     private static void promise1NewObject() {
         LoanRules x = new LoanRules();
         due("1: nothing is collected", x.rule(), -1);
-        due("1: no rules", x.never(0), LoanRules.NONE);
-        due("1: no clashes", x.clash(0, 0), LoanRules.NONE);
-        due("1: nothing to explain", x.explain(0), LoanRules.NONE);
+        due("1: no rules", x.never(0), NONE);
+        due("1: no clashes", x.clash(0, 0), NONE);
+        due("1: nothing to explain", x.explain(0), NONE);
         due("1: no rule fits", lend(x, 0, 0, 0), -100);
-        due("1: no loan", x.due(1), LoanRules.NONE);
+        due("1: no loan", x.due(1), NONE);
         tell(x, "lend term");
         due("1: no terms", lend(x, 0, 0, 0), -101);
         for (int person = 0; person < 50; person++) {
@@ -72,7 +21,7 @@ public final class LoanRulesPromises {
             due("1: open " + day, new LoanRules().closed(day, true), false);
         }
         LoanRules other = new LoanRules();
-        due("1: objects share nothing", other.never(0), LoanRules.NONE);
+        due("1: objects share nothing", other.never(0), NONE);
     }
 
     private static void promise2Sign() {
@@ -246,7 +195,7 @@ public final class LoanRulesPromises {
         due("3: the 41st", tell(x, "fail"), -200);
         due("3: the 41st is forgotten", tell(x, "refuse"), -200);
         due("3: wrong comes first", tell(x, "fail "), -6);
-        due("3: none more", x.never(40), LoanRules.NONE);
+        due("3: none more", x.never(40), NONE);
         due("3: the last", x.never(39), 39);
     }
 
@@ -383,7 +332,7 @@ public final class LoanRulesPromises {
         due("7: not let through", lend(x, 0, 0, 0), -1);
         due("7: let through", x.throwsUp(0, true), false);
         due("7: throws", lend(x, 0, 0, 0), THROWN);
-        due("7: no loan came of it", x.due(1), LoanRules.NONE);
+        due("7: no loan came of it", x.due(1), NONE);
         due("7: a wrong loan is 0 all the same", lend(x, 0, 50, 0), 0);
         x.block(0, 1);
         due("7: blocked comes first", lend(x, 0, 0, 0), -103);
@@ -414,21 +363,21 @@ public final class LoanRulesPromises {
         due("7: none met", x.never(0), 1);
         x.block(0, 4);
         due("7: 0 is ahead of blocked", lend(x, 0, 1, 0), 0);
-        due("7: no loan 201", x.due(201), LoanRules.NONE);
+        due("7: no loan 201", x.due(201), NONE);
     }
 
     private static void promise8Due() {
         LoanRules x = with("lend 5");
-        due("8: none yet", x.due(1), LoanRules.NONE);
+        due("8: none yet", x.due(1), NONE);
         due("8: lend", lend(x, 0, 0, 0), 1);
         due("8: due", x.due(1), 5);
-        due("8: no loan 0", x.due(0), LoanRules.NONE);
-        due("8: no loan 2", x.due(2), LoanRules.NONE);
+        due("8: no loan 0", x.due(0), NONE);
+        due("8: no loan 2", x.due(2), NONE);
         for (int w : WILD) {
-            due("8: wild", x.due(w), LoanRules.NONE);
+            due("8: wild", x.due(w), NONE);
         }
         x.back(1);
-        due("8: given back", x.due(1), LoanRules.NONE);
+        due("8: given back", x.due(1), NONE);
     }
 
     private static void promise9Renew() {
@@ -574,12 +523,12 @@ public final class LoanRulesPromises {
         due("12: lend", lend(x, 49, 0, 0), 1);
         due("12: by 1", x.block(49, 1), 0);
         due("12: by 9", x.block(49, 9), 1);
-        due("12: no cause 10", x.block(49, 10), LoanRules.NONE);
-        due("12: no cause -1", x.block(49, -1), LoanRules.NONE);
-        due("12: no person 50", x.block(50, 1), LoanRules.NONE);
+        due("12: no cause 10", x.block(49, 10), NONE);
+        due("12: no cause -1", x.block(49, -1), NONE);
+        due("12: no person 50", x.block(50, 1), NONE);
         for (int w : WILD) {
-            due("12: wild person", x.block(w, 1), LoanRules.NONE);
-            due("12: wild cause", x.block(49, w), LoanRules.NONE);
+            due("12: wild person", x.block(w, 1), NONE);
+            due("12: wild cause", x.block(49, w), NONE);
         }
         due("12: no loan", lend(x, 49, 1, 0), -111);
         due("12: no renewal", x.renew(1, 1), -111);
@@ -592,8 +541,8 @@ public final class LoanRulesPromises {
         y.block(0, 2);
         due("12: blocked", lend(y, 0, 0, 0), -104);
         due("12: none is met", y.never(0), 0);
-        due("12: no clash", y.clash(0, 0), LoanRules.NONE);
-        due("12: nothing to explain", y.explain(0), LoanRules.NONE);
+        due("12: no clash", y.clash(0, 0), NONE);
+        due("12: nothing to explain", y.explain(0), NONE);
     }
 
     private static void promise13Except() {
@@ -613,7 +562,7 @@ public final class LoanRulesPromises {
         due("13: day 0", lend(x, 0, 1, 0), -1);
         due("13: person 49, day 0", x.except(49, 2, 0), 1);
         due("13: person 49", lend(x, 49, 1, 0), -1);
-        due("13: only one left", x.explain(2), LoanRules.NONE);
+        due("13: only one left", x.explain(2), NONE);
         due("13: no person 50", x.except(50, 0, 1), 0);
         due("13: no rule 3", x.except(0, 3, 1), 0);
         for (int w : WILD) {
@@ -661,14 +610,14 @@ public final class LoanRulesPromises {
 
     private static void promise15Explain() {
         LoanRules x = with("lend 1", "refuse rank 5", "kind 1 fail rank 9", "lend 2 rank 5", "lend term rank 7", "fail");
-        due("15: nothing asked yet", x.explain(0), LoanRules.NONE);
+        due("15: nothing asked yet", x.explain(0), NONE);
         due("15: asked", lend(x, 0, 0, 0), -101);
-        int[] order = {4, 1, 3, 0, 5, LoanRules.NONE};
+        int[] order = {4, 1, 3, 0, 5, NONE};
         for (int i = 0; i < order.length; i++) {
             due("15: " + i, x.explain(i), order[i]);
         }
         for (int w : WILD) {
-            due("15: wild", x.explain(w), LoanRules.NONE);
+            due("15: wild", x.explain(w), NONE);
         }
         due("15: 0 explains nothing", lend(x, 0, 0, 10000), 0);
         due("15: the same", x.explain(0), 4);
@@ -683,7 +632,7 @@ public final class LoanRulesPromises {
         tell(x, "refuse rank 999");
         due("15: what was told then", x.explain(0), 4);
         due("15: asked again", lend(x, 0, 0, 0), -7);
-        int[] later = {6, 2, 1, 3, 0, 5, LoanRules.NONE};
+        int[] later = {6, 2, 1, 3, 0, 5, NONE};
         for (int i = 0; i < later.length; i++) {
             due("15: later " + i, x.explain(i), later[i]);
         }
@@ -692,7 +641,7 @@ public final class LoanRulesPromises {
         due("15: it fitted", y.explain(0), 0);
         y.row(0, 0, 1);
         due("15: none fits", lend(y, 0, 1, 0), -100);
-        due("15: none fitted", y.explain(0), LoanRules.NONE);
+        due("15: none fitted", y.explain(0), NONE);
     }
 
     private static void promise16Never() {
@@ -701,21 +650,21 @@ public final class LoanRulesPromises {
             due("16: " + i, x.never(i), i);
             x.row(0, i, i);
         }
-        due("16: no more", x.never(4), LoanRules.NONE);
+        due("16: no more", x.never(4), NONE);
         for (int w : WILD) {
-            due("16: wild", x.never(w), LoanRules.NONE);
+            due("16: wild", x.never(w), NONE);
         }
         due("16: refuses", lend(x, 1, 0, 0), -2);
         due("16: met though it refuses", x.never(1), 2);
         due("16: no due day", lend(x, 2, 0, 0), -101);
         due("16: met though there is no due day", x.never(1), 3);
         due("16: fails", lend(x, 3, 0, 0), -4);
-        due("16: met though it fails", x.never(1), LoanRules.NONE);
+        due("16: met though it fails", x.never(1), NONE);
         due("16: fitting is not met", x.never(0), 0);
         due("16: a wrong loan", lend(x, 0, 50, 0), 0);
         due("16: is not asked for", x.never(0), 0);
         due("16: lend", lend(x, 0, 0, 0), 1);
-        due("16: all met", x.never(0), LoanRules.NONE);
+        due("16: all met", x.never(0), NONE);
         tell(x, "lend 5");
         due("16: a new one", x.never(0), 4);
     }
@@ -724,7 +673,7 @@ public final class LoanRulesPromises {
         LoanRules x = with("lend 1 rank 1", "lend 2 rank 1", "kind 1 lend 3 rank 1", "type 1 refuse rank 2",
                 "type 1 fail rank 2", "lend 5");
         x.row(1, 1, 1);
-        due("17: none yet", x.clash(0, 0), LoanRules.NONE);
+        due("17: none yet", x.clash(0, 0), NONE);
         due("17: refused", lend(x, 0, 1, 0), -4);
         due("17: the first", x.clash(0, 0), 3);
         due("17: the second", x.clash(0, 1), 4);
@@ -734,7 +683,7 @@ public final class LoanRulesPromises {
         due("17: the first two", x.clash(1, 1), 1);
         due("17: but once", lend(x, 0, 1, 0), -4);
         due("17: but once", lend(x, 0, 2, 0), 2);
-        due("17: no more", x.clash(2, 0), LoanRules.NONE);
+        due("17: no more", x.clash(2, 0), NONE);
         x.except(0, 1, 9999);
         due("17: without the second", lend(x, 0, 3, 0), 3);
         due("17: the first and the third", x.clash(2, 0), 0);
@@ -742,14 +691,14 @@ public final class LoanRulesPromises {
         x.except(0, 0, 9999);
         x.except(0, 2, 9999);
         due("17: one alone is none", lend(x, 0, 4, 0), 4);
-        due("17: no more", x.clash(3, 0), LoanRules.NONE);
-        due("17: no side 2", x.clash(0, 2), LoanRules.NONE);
-        due("17: no side -1", x.clash(0, -1), LoanRules.NONE);
-        due("17: no clash -1", x.clash(-1, 0), LoanRules.NONE);
+        due("17: no more", x.clash(3, 0), NONE);
+        due("17: no side 2", x.clash(0, 2), NONE);
+        due("17: no side -1", x.clash(0, -1), NONE);
+        due("17: no clash -1", x.clash(-1, 0), NONE);
         for (int w : WILD) {
-            due("17: wild", x.clash(w, 0), LoanRules.NONE);
-            due("17: wild", x.clash(w, 1), LoanRules.NONE);
-            due("17: wild side", x.clash(0, w), LoanRules.NONE);
+            due("17: wild", x.clash(w, 0), NONE);
+            due("17: wild", x.clash(w, 1), NONE);
+            due("17: wild side", x.clash(0, w), NONE);
         }
     }
 
@@ -760,7 +709,7 @@ public final class LoanRulesPromises {
         due("17: without a rank it is 0", x.clash(0, 1), 1);
         LoanRules y = with("lend 1", "lend 2", "lend 3 rank 1");
         due("17: lend", lend(y, 0, 0, 0), 1);
-        due("17: only of the highest", y.clash(0, 0), LoanRules.NONE);
+        due("17: only of the highest", y.clash(0, 0), NONE);
     }
 
     public static void main(String[] args) {
@@ -794,9 +743,6 @@ public final class LoanRulesPromises {
         promise16Never();
         promise17Clash();
         promise17Ranks();
-        System.out.println(wrong == 0 ? "all promises hold" : wrong + " answers are not as due");
-        if (wrong != 0) {
-            System.exit(1);
-        }
+        end("all promises hold");
     }
 }
