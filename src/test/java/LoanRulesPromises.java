@@ -712,6 +712,19 @@ public final class LoanRulesPromises extends Checks {
         due("17: only of the highest", y.clash(0, 0), NONE);
     }
 
+    /** The calls that README.md shows, with the answers that stand behind them there. */
+    private static void readmeExample() {
+        LoanRules x = new LoanRules();
+        due("README: rule", tell(x, "kind 1 lend 14 renew 2 gap 3 recall 5 rank 1"), 0);
+        due("README: row", x.row(0, 7, 1), 1);
+        due("README: closed", x.closed(24, true), false);
+        due("README: lend", lend(x, 7, 3, 10), 1);
+        due("README: due", x.due(1), 25);
+        due("README: renew", x.renew(1, 13), 1);
+        due("README: recall", x.recall(1, 14), 19);
+        due("README: back", x.back(1), 1);
+    }
+
     public static void main(String[] args) {
         due("the constant NONE", LoanRules.NONE, -1);
         promise1NewObject();
@@ -743,6 +756,7 @@ public final class LoanRulesPromises extends Checks {
         promise16Never();
         promise17Clash();
         promise17Ranks();
+        readmeExample();
         end("all promises hold");
     }
 }
